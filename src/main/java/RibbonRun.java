@@ -917,15 +917,15 @@ public final class RibbonRun {
 
         private boolean readSees() {
             token.advance();
-            if (!isToldGrower()) {
+            int one = toldGrower();
+            if (one < 0) {
                 return false;
             }
-            int one = into.numberOf(token.value);
             token.advance();
-            if (!isToldGrower()) {
+            int other = toldGrower();
+            if (other < 0) {
                 return false;
             }
-            int other = into.numberOf(token.value);
             if (into.first.isSeen(one, other)) {
                 return fail(AGAIN);
             }
@@ -942,15 +942,13 @@ public final class RibbonRun {
                 return fail(TOO_MUCH);
             }
             token.advance();
-            if (!isToldGrower()) {
+            int grower = toldGrower();
+            if (grower < 0) {
                 return false;
             }
-            int grower = into.numberOf(token.value);
-            if (grower >= 0) {
-                into.first.holder[into.ribbons] = grower;
-                into.first.had[grower]++;
-                into.ribbons++;
-            }
+            into.first.holder[into.ribbons] = grower;
+            into.first.had[grower]++;
+            into.ribbons++;
             token.advance();
             return true;
         }
@@ -1102,11 +1100,13 @@ public final class RibbonRun {
             return into.knots <= MOST_KNOTS;
         }
 
-        private boolean isToldGrower() {
-            if (token.kind != Tape.NAME) {
-                return fail(WRONG);
+        /** NONE with a FAULT. */
+        private int toldGrower() {
+            int grower = token.kind == Tape.NAME ? into.numberOf(token.value) : NONE;
+            if (grower == NONE) {
+                fail(token.kind == Tape.NAME ? UNTOLD : WRONG);
             }
-            return into.numberOf(token.value) != NONE || fail(UNTOLD);
+            return grower;
         }
 
         private boolean takeNumber(int most) {

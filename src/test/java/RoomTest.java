@@ -29,15 +29,13 @@ final class RoomTest {
         CHECK.end();
     }
 
-    /** Six growers, few sees, laws of 64 knots. */
+    /** Six growers, few sees, so that many could be, and laws of 63 knots. */
     private static String heavy() {
         StringBuilder t = new StringBuilder();
-        for (int i = 0; i < 6; i++) {
-            char c = (char) ('a' + i);
-            t.append("grower ").append(c).append(" 50 1 3 ").append(i * 15).append(";sees ")
-                .append(i == 0 ? "" : c + " " + (char) (c - 1) + ";");
-            if (i == 0) {
-                t.setLength(t.length() - 5);
+        for (char c = 'a'; c <= 'f'; c++) {
+            t.append("grower ").append(c).append(" 50 1 3 ").append((c - 'a') * 15).append(';');
+            if (c > 'a') {
+                t.append("sees ").append(c).append(' ').append((char) (c - 1)).append(';');
             }
         }
         return t.append("ribbon f;ribbon d;blight 50;law judge worth").append("-had+far".repeat(11))

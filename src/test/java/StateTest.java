@@ -27,6 +27,7 @@ final class StateTest {
         ranks();
         seen();
         undoing();
+        undoingMany();
         images();
         counts();
         CHECK.end();
@@ -202,6 +203,21 @@ final class StateTest {
         value("1000 * 1000 * 1000 * 1001", ERROR);
         value("(" + million + ") = (" + million + ")", 1);
         value("((((((((worth + 1))))))))", 8);
+        // 2 to the 32, whose product with itself a long can't tell from 0.
+        String big = "(4096 * 4096 * 256)";
+        String small = "(0 - 4096 * 4096 * 256)";
+        value(big, 4294967296L);
+        value(big + " * " + big, ERROR);
+        value(small + " * " + big, ERROR);
+        value(big + " * " + small, ERROR);
+        value(small + " * " + small, ERROR);
+        value(small + " * 0", 0);
+        value("0 * " + small, 0);
+        value("(0 - 3) * (0 - 4)", 12);
+        value("not ".repeat(63) + "5", 0);
+        value("not ".repeat(62) + "5", 1);
+        value("not ".repeat(50) + "((((((((not not 0))))))))", 0);
+        value("1+(1+(1+(1+(1+(1+(1+(1+(1))))))))".replaceFirst("\\(1\\)", "1"), 9);
     }
 
     private static void showing() {
@@ -467,6 +483,27 @@ final class StateTest {
         }
         CHECK.due("P41 handed twice", x.ribbon(1, 2), 2);
         CHECK.due("P41 who", x.ribbon(1, 0), 2);
+    }
+
+    /** More than twenty of all kinds: each undoing leads to what was there. */
+    private static void undoingMany() {
+        RibbonRun x = Check.of(THREE + "law give 0;");
+        x.go(3);
+        int[][] was = new int[30][];
+        for (int i = 0; i < 29; i++) {
+            was[i] = all(x);
+            boolean isDone = i % 3 == 0 ? x.show(i % 2, 2 - i % 2, !(x.grower(i % 2, 5) >> 2 - i % 2 > 0 && i % 2 == 0))
+                : i % 3 == 1 ? x.raise(i / 3 % 3, 7 * i - 95) >= 0 : x.hand(i % 2, (x.ribbon(i % 2, 0) + 1 + i % 2) % 3);
+            if (!isDone) {
+                x.raise(i % 3, i + 1);
+            }
+            CHECK.due("P44 " + i + " to undo", x.count(9), Math.min(20, i + 1));
+        }
+        for (int i = 28; i >= 9; i--) {
+            CHECK.due("P41 undone " + i, x.undo(), i - 9);
+            same("P41 undone " + i, all(x), was[i]);
+        }
+        CHECK.due("P41 none", x.undo(), -1);
     }
 
     private static void images() {

@@ -123,6 +123,27 @@ final class TextTest {
         fault("law 1;", 1, 4);
         fault("law judge;", 1, 9);
         fault("law judge", 1, 9);
+        for (String word : ("grower sees ribbon blight seed law or and not worth own doubt far had since year").split(" ")) {
+            fault("law " + word + " 1;", 1, 4);
+        }
+        cutShort();
+    }
+
+    /** What was fed behind the first n bytes is not looked at. */
+    private static void cutShort() {
+        String[] texts = {"law judge 1<=2;", "law judge 1<>2;", "law judge 1>=2;", "blight 5", "seed 12", "grower a 1 1 1 12;",
+            "blight"};
+        int[] n = {12, 12, 12, 7, 6, 16, 5};
+        int[] place = {12, 12, 12, 7, 6, 16, 0};
+        for (int i = 0; i < texts.length; i++) {
+            RibbonRun x = new RibbonRun();
+            Check.read(x, "");
+            byte[] bytes = texts[i].getBytes(java.nio.charset.StandardCharsets.ISO_8859_1);
+            x.feed(Check.four(bytes, 0), Check.four(bytes, 4), Check.four(bytes, 8), Check.four(bytes, 12), 0);
+            CHECK.due("P3 the first bytes of " + texts[i], x.text(n[i]), -1);
+            CHECK.due("P4 fault", x.fault(0), 1);
+            CHECK.due("P4 place", x.fault(1), place[i]);
+        }
     }
 
     private static void tooMuch() {
@@ -290,6 +311,11 @@ final class TextTest {
         x.go(1);
         CHECK.due("P3 anew no blight", x.grower(0, 0), 2);
         CHECK.due("P3 anew since", x.ribbon(0, 1), 0);
+        CHECK.due("P3 no lines", x.text(0), 0);
+        CHECK.due("P3 no lines, no growers", x.count(0), 0);
+        CHECK.due("P3 no lines, no ribbons", x.count(2), 0);
+        CHECK.due("P3 no lines, year 0", x.count(4), 0);
+        CHECK.due("P3 no lines, nothing told", x.count(7), 0);
     }
 
     private static void naming() {
