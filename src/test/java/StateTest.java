@@ -28,6 +28,7 @@ final class StateTest {
         seen();
         undoing();
         undoingMany();
+        undoingTheLast();
         images();
         counts();
         CHECK.end();
@@ -483,6 +484,21 @@ final class StateTest {
         }
         CHECK.due("P41 handed twice", x.ribbon(1, 2), 2);
         CHECK.due("P41 who", x.ribbon(1, 0), 2);
+    }
+
+    /** What is handed last, when the first of twenty is forgotten, is undone as a whole. */
+    private static void undoingTheLast() {
+        RibbonRun x = Check.of(THREE + "law give 0;");
+        x.go(3);
+        for (int i = 0; i < 19; i++) {
+            x.raise(0, 1);
+        }
+        int[] was = all(x);
+        x.hand(1, 2);
+        x.raise(0, 1);
+        CHECK.due("P41 the raise", x.undo(), 19);
+        CHECK.due("P41 the handing", x.undo(), 18);
+        same("P41 the last", all(x), was);
     }
 
     /** More than twenty of all kinds: each undoing leads to what was there. */

@@ -69,6 +69,17 @@ final class ToldTest {
         CHECK.due("P37 24", x.known(24), true);
         CHECK.due("P37 25", x.known(25), false);
         CHECK.due("P38 all struck", x.doubts(0), 1023);
+        CHECK.due("P23 eight handings", x.order(6), 0);
+        RibbonRun y = Check.of(DOUBT);
+        for (int i = 0; i < 24; i++) {
+            y.see(1 + i % 2, 0, 1 - i % 2, true);
+        }
+        CHECK.due("P38 24 sights that are so", y.doubts(0), 1023);
+        RibbonRun z = Check.of("grower a 9 0 0 0;grower b 8 0 0 0;grower c 7 0 0 0;sees a b;sees a c;");
+        for (int i = 0; i < 24; i++) {
+            z.note(0, i < 11 ? 1 : 2);
+        }
+        order("24 handings, the fewer clash", z, 0, 2, 1, -2, -2, -2, 11);
     }
 
     private static void order(String told, RibbonRun x, int... due) {
