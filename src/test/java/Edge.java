@@ -77,6 +77,18 @@ final class Edge {
         alike(call + " leaves", x, without);
     }
 
+    /** A call with a number put into it. */
+    interface Asked {
+        ToLongFunction<RibbonRun> with(int no);
+    }
+
+    /** With each of these numbers the call is answered by NONE, and leaves all as it is. */
+    void refused(String call, Supplier<RibbonRun> maker, int[] values, Asked asked) {
+        for (int no : values) {
+            leaves(call + " " + no, maker, asked.with(no), RibbonRun.NONE);
+        }
+    }
+
     /** Two objects are alike in all that can be asked but fault(); both are used up by this. */
     void alike(String told, RibbonRun one, RibbonRun other) {
         asked++;

@@ -113,19 +113,9 @@ final class EdgeAsk {
         edge.leaves("ring(0, 2)", () -> Check.of(six + "sees f c;"), x -> x.ring(0, 2), 60);
         ring("of two", Check.of("grower a 1 0 0 0;grower b 1 0 0 0;sees a b;sees b a;ribbon b;"), 0, 1, 0, 3);
         edge.at(16, "NONE: no such ones.");
-        refuse("ring", Edge.beyond(0, 1), no -> x -> x.ring(no, 0));
-        refuse("ring what", Edge.beyond(0, 2), no -> x -> x.ring(0, no));
+        edge.refused("ring", Busy::full, Edge.beyond(0, 1), no -> x -> x.ring(no, 0));
+        edge.refused("ring what", Busy::full, Edge.beyond(0, 2), no -> x -> x.ring(0, no));
         edge.due("one RIBBON, the second", Check.of("grower a 1 0 0 0;ribbon a;").ring(1, 0), -1);
-    }
-
-    private interface Asked {
-        java.util.function.ToLongFunction<RibbonRun> with(int no);
-    }
-
-    private void refuse(String told, int[] values, Asked asked) {
-        for (int no : values) {
-            edge.leaves(told + " " + no, Busy::full, asked.with(no), -1);
-        }
     }
 
     private void ringsAsItIsNow() {
@@ -178,6 +168,11 @@ final class EdgeAsk {
         edge.due("RING is 0 with both", ringWithout(3, 0, 1, 0, 2), 0);
         pick("two of three aren't enough", free(Check.of(EdgeState.everySees(4) + "ribbon c;"), 0), -2, -2, -2);
         edge.due("three would be", ringWithout(4, 0, 1, 0, 2, 0, 3), 0);
+        RibbonRun x = Check.of(EdgeState.everySees(4) + "ribbon c;");
+        x.show(1, 3, false);
+        pick("two of b's are left", free(x, 0), 2, 10, 12);
+        x.show(1, 3, true);
+        pick("by none again", free(x, 0), -2, -2, -2);
     }
 
     private static int ringWithout(int growers, int... pairs) {
@@ -206,8 +201,8 @@ final class EdgeAsk {
             edge.leaves("free(0, " + w + ")", () -> Check.of(EdgeState.everySees(4) + "ribbon a;"), y -> y.free(0, w), -2);
         }
         edge.at(17, "NONE: no such ones.");
-        refuse("free of", Edge.beyond(0, 1), no -> y -> y.free(no, 0));
-        refuse("free what", Edge.beyond(0, 2), no -> y -> y.free(0, no));
+        edge.refused("free of", Busy::full, Edge.beyond(0, 1), no -> y -> y.free(no, 0));
+        edge.refused("free what", Busy::full, Edge.beyond(0, 2), no -> y -> y.free(0, no));
         edge.due("one RIBBON, the second", Check.of("grower a 1 0 0 0;ribbon a;").free(1, 0), -1);
     }
 
@@ -241,6 +236,11 @@ final class EdgeAsk {
         pick("the first of the second two", lead(several, 0, 0, 2), 0, -2, -2);
         several.show(0, 1, true);
         pick("of b a, b c and c a, b c and c b", lead(several, 0, 0, 3), 2, 12, 20);
+        // a hands to b first, whom it doubts then: both SEES of a must be, for c alone would hand it on to d.
+        RibbonRun both = Check.of("grower a 1 0 9 0;grower b 9 0 0 0;grower c 8 0 0 0;grower d 7 0 0 0;sees b a;sees c d;ribbon a;");
+        pick("a b and a c", lead(both, 0, 2, 3), 2, 1, 2);
+        pick("a c alone", lead(both, 0, 2, 1), 1, 2, -2);
+        pick("a d alone", lead(both, 0, 3, 1), 1, 3, -2);
         edge.leaves("lead(0, 2, 2, 0)", () -> Check.of(ROW), x -> x.lead(0, 2, 2, 0), 2);
     }
 
@@ -261,10 +261,10 @@ final class EdgeAsk {
             edge.leaves("lead(0, 3, 3, " + w + ")", () -> Check.of(ROW), y -> y.lead(0, 3, 3, w), -2);
         }
         edge.at(18, "NONE: no such ones.");
-        refuse("lead of", Edge.beyond(0, 1), no -> y -> y.lead(no, 0, 1, 0));
-        refuse("lead to", Edge.beyond(0, 2), no -> y -> y.lead(0, no, 1, 0));
-        refuse("lead for", Edge.beyond(1, 20), no -> y -> y.lead(0, 0, no, 0));
-        refuse("lead what", Edge.beyond(0, 2), no -> y -> y.lead(0, 0, 1, no));
+        edge.refused("lead of", Busy::full, Edge.beyond(0, 1), no -> y -> y.lead(no, 0, 1, 0));
+        edge.refused("lead to", Busy::full, Edge.beyond(0, 2), no -> y -> y.lead(0, no, 1, 0));
+        edge.refused("lead for", Busy::full, Edge.beyond(1, 20), no -> y -> y.lead(0, 0, no, 0));
+        edge.refused("lead what", Busy::full, Edge.beyond(0, 2), no -> y -> y.lead(0, 0, 1, no));
         edge.due("one RIBBON, the second", Check.of(late + "0;").lead(1, 0, 1, 0), -1);
     }
 
@@ -301,8 +301,8 @@ final class EdgeAsk {
         walk("from who has it now", x, 0, 1, 0, -2, -2, -2, 2);
         edge.leaves("walk(0, 5)", Busy::full, y -> y.walk(0, 5) < 0 ? -1 : 0, 0);
         edge.at(19, "NONE: no such ones.");
-        refuse("walk of", Edge.beyond(0, 1), no -> y -> y.walk(no, 0));
-        refuse("walk what", Edge.beyond(0, 5), no -> y -> y.walk(0, no));
+        edge.refused("walk of", Busy::full, Edge.beyond(0, 1), no -> y -> y.walk(no, 0));
+        edge.refused("walk what", Busy::full, Edge.beyond(0, 5), no -> y -> y.walk(0, no));
         edge.due("one RIBBON, the second", x.walk(1, 0), -1);
     }
 
@@ -347,7 +347,7 @@ final class EdgeAsk {
         x.show(5, 4, false);
         edge.due("two now", x.reach(0), 33);
         edge.at(21, "NONE: no such GROWER.");
-        refuse("reach of", Edge.beyond(0, 2), no -> z -> z.reach(no));
+        edge.refused("reach of", Busy::full, Edge.beyond(0, 2), no -> z -> z.reach(no));
         edge.due("no growers", new RibbonRun().reach(0), -1);
     }
 
@@ -406,9 +406,9 @@ final class EdgeAsk {
         x.raise(1, 40);
         edge.due("one now", x.rests(0, 1), 1);
         edge.at(24, "NONE: no such GROWERS, alike.");
-        refuse("rests one", Edge.beyond(0, 2), no -> y -> y.rests(no, 0));
-        refuse("rests other", Edge.beyond(0, 2), no -> y -> y.rests(0, no));
-        refuse("rests alike", new int[] {0, 1, 2}, no -> y -> y.rests(no, no));
+        edge.refused("rests one", Busy::full, Edge.beyond(0, 2), no -> y -> y.rests(no, 0));
+        edge.refused("rests other", Busy::full, Edge.beyond(0, 2), no -> y -> y.rests(0, no));
+        edge.refused("rests alike", Busy::full, new int[] {0, 1, 2}, no -> y -> y.rests(no, no));
         edge.at(25, "The k-th: ten times the first one's and the second one's;");
         RibbonRun four = Check.of("grower a 0 0 0 0;grower b 0 0 0 0;");
         int[] due = {0, 1, 10, 11};
@@ -421,10 +421,10 @@ final class EdgeAsk {
         }
         edge.due("one alone", x.rest(0, 1, 1), -2);
         edge.at(25, "NONE likewise, k is below 0.");
-        refuse("rest k", new int[] {-1, -2, Edge.LOW}, no -> y -> y.rest(0, 1, no));
-        refuse("rest one", Edge.beyond(0, 2), no -> y -> y.rest(no, 0, 0));
-        refuse("rest other", Edge.beyond(0, 2), no -> y -> y.rest(0, no, 9));
-        refuse("rest alike", new int[] {0, 1, 2}, no -> y -> y.rest(no, no, 9));
+        edge.refused("rest k", Busy::full, new int[] {-1, -2, Edge.LOW}, no -> y -> y.rest(0, 1, no));
+        edge.refused("rest one", Busy::full, Edge.beyond(0, 2), no -> y -> y.rest(no, 0, 0));
+        edge.refused("rest other", Busy::full, Edge.beyond(0, 2), no -> y -> y.rest(0, no, 9));
+        edge.refused("rest alike", Busy::full, new int[] {0, 1, 2}, no -> y -> y.rest(no, no, 9));
     }
 
     private void visit(RibbonRun x, int grower, int way, int bits, int worth) {
@@ -478,9 +478,9 @@ final class EdgeAsk {
         visit(most, 2, 147, 57, 396);
         edge.leaves("visit(0, 999, 0)", Busy::full, y -> y.visit(0, 999, 0), 6);
         edge.at(26, "NONE: no such ones.");
-        refuse("visit from", Edge.beyond(0, 2), no -> y -> y.visit(no, 5, 0));
-        refuse("visit way", Edge.beyond(0, 999), no -> y -> y.visit(0, no, 0));
-        refuse("visit what", Edge.beyond(0, 1), no -> y -> y.visit(0, 5, no));
+        edge.refused("visit from", Busy::full, Edge.beyond(0, 2), no -> y -> y.visit(no, 5, 0));
+        edge.refused("visit way", Busy::full, Edge.beyond(0, 999), no -> y -> y.visit(0, no, 0));
+        edge.refused("visit what", Busy::full, Edge.beyond(0, 1), no -> y -> y.visit(0, 5, no));
         edge.due("no growers", new RibbonRun().visit(0, 0, 0), -1);
     }
 
@@ -498,8 +498,8 @@ final class EdgeAsk {
         }
         edge.leaves("hosts(0, 99)", () -> Check.of(LATE + "98;"), z -> z.hosts(0, 99), 3);
         edge.at(27, "NONE: no such ones.");
-        refuse("hosts of", Edge.beyond(0, 1), no -> z -> z.hosts(no, 1));
-        refuse("hosts in", Edge.beyond(0, 99), no -> z -> z.hosts(0, no));
+        edge.refused("hosts of", Busy::full, Edge.beyond(0, 1), no -> z -> z.hosts(no, 1));
+        edge.refused("hosts in", Busy::full, Edge.beyond(0, 99), no -> z -> z.hosts(0, no));
         edge.due("one RIBBON, the second", y.hosts(1, 1), -1);
     }
 
@@ -519,8 +519,8 @@ final class EdgeAsk {
         edge.leaves("comesTo(0, 1)", () -> Check.of(LATE + "99;"), y -> y.comesTo(0, 1), -2);
         edge.leaves("comesTo(1, 0)", () -> Check.of(LATE + "0;"), y -> y.comesTo(1, 0), -2);
         edge.at(30, "NONE: no such ones.");
-        refuse("comesTo of", Edge.beyond(0, 1), no -> y -> y.comesTo(no, 0));
-        refuse("comesTo whom", Edge.beyond(0, 2), no -> y -> y.comesTo(0, no));
+        edge.refused("comesTo of", Busy::full, Edge.beyond(0, 1), no -> y -> y.comesTo(no, 0));
+        edge.refused("comesTo whom", Busy::full, Edge.beyond(0, 2), no -> y -> y.comesTo(0, no));
         edge.due("one RIBBON, the second", Check.of(places(0) + "ribbon a;").comesTo(1, 0), -1);
     }
 
@@ -573,10 +573,10 @@ final class EdgeAsk {
 
     private void chanceLimits() {
         edge.at(39, "NONE: no such ones.");
-        refuse("chance from", new int[] {-1, -2, Edge.LOW}, no -> y -> y.chance(no, 1, 0, 0));
-        refuse("chance in", Edge.beyond(1, 99), no -> y -> y.chance(0, no, 0, 0));
-        refuse("chance of", Edge.beyond(0, 1), no -> y -> y.chance(0, 1, no, 0));
-        refuse("chance whom", Edge.beyond(0, 2), no -> y -> y.chance(0, 1, 0, no));
+        edge.refused("chance from", Busy::full, new int[] {-1, -2, Edge.LOW}, no -> y -> y.chance(no, 1, 0, 0));
+        edge.refused("chance in", Busy::full, Edge.beyond(1, 99), no -> y -> y.chance(0, no, 0, 0));
+        edge.refused("chance of", Busy::full, Edge.beyond(0, 1), no -> y -> y.chance(0, 1, no, 0));
+        edge.refused("chance whom", Busy::full, Edge.beyond(0, 2), no -> y -> y.chance(0, 1, 0, no));
         edge.due("one RIBBON, the second", Check.of(DRAWN).chance(0, 1, 1, 0), -1);
         edge.due("no RIBBON", Check.of(places(0)).chance(0, 1, 0, 0), -1);
     }
@@ -611,6 +611,12 @@ final class EdgeAsk {
         edge.due("4: blight comes", Check.of(blight + "50;").tried(4, 0, 1), 0);
         RibbonRun x = Check.of("grower a 9 0 0 0;grower b 8 0 0 0;sees a b;ribbon b;ribbon a;");
         edge.due("RIBBON 0, not 1", x.tried(0, 0, 1), 1);
+        RibbonRun six = Check.of(EdgeState.everySees(6) + "ribbon f;");
+        int[] who = {0, 0, 1, 0, 0};
+        for (int what = 0; what < 5; what++) {
+            edge.due("six that SEE all, tried " + what, six.tried(what, 0, 1), who[what]);
+        }
+        edge.due("six that SEE all, the last is SEEN by nobody", six.tried(2, 5, 2), 1);
     }
 
     private void triedLimits() {
@@ -624,11 +630,12 @@ final class EdgeAsk {
         }
         edge.due("tried(2, 1, 99)", Check.of(LATE + "98;").tried(2, 1, 99), 0);
         edge.at(40, "NONE: no such ones (i 0 of all but 2), no RIBBON.");
-        refuse("tried what", Edge.beyond(0, 4), no -> y -> y.tried(no, 0, 1));
+        edge.refused("tried what", Busy::full, Edge.beyond(0, 4), no -> y -> y.tried(no, 0, 1));
         for (int what = 0; what < 5; what++) {
             int w = what;
-            refuse("tried " + w + " for", Edge.beyond(0, 99), no -> y -> y.tried(w, 0, no));
-            refuse("tried " + w + " of", w == 2 ? Edge.beyond(0, 2) : new int[] {-1, 1, 2, Edge.LOW, Edge.HIGH}, no -> y -> y.tried(w, no, 1));
+            edge.refused("tried " + w + " for", Busy::full, Edge.beyond(0, 99), no -> y -> y.tried(w, 0, no));
+            int[] others = w == 2 ? Edge.beyond(0, 2) : new int[] {-1, 1, 2, Edge.LOW, Edge.HIGH};
+            edge.refused("tried " + w + " of", Busy::full, others, no -> y -> y.tried(w, no, 1));
             Supplier<RibbonRun> none = () -> Check.of("grower a 9 0 0 0;grower b 8 0 0 0;sees a b;");
             edge.leaves("tried " + w + " without a RIBBON", none, y -> y.tried(w, 0, 1), -1);
         }

@@ -23,6 +23,7 @@ final class EdgeDeeds {
         test.limitsOfRibbons();
         test.undoing();
         test.undoingTwenty();
+        test.undoingAllKinds();
         test.undoingNoYear();
         test.images();
         test.imagesOfAll();
@@ -471,6 +472,48 @@ final class EdgeDeeds {
             y.undo();
         }
         edge.due("all are undone", y.grower(0, 0) * 100 + y.grower(1, 0), 1020);
+    }
+
+    /** An object on which so many deeds of all kinds were done. */
+    private static RibbonRun done(int many) {
+        RibbonRun x = Check.of(THREE + "ribbon a;ribbon b;law give 0;");
+        x.go(3);
+        for (int i = 0; i < many; i++) {
+            int one = (i * 2 + i / 5) % 3;
+            int other = (one + 1 + i % 2) % 3;
+            if (i % 3 == 0) {
+                x.show(one, other, (x.grower(one, 5) >> other & 1) == 0);
+            } else if (i % 3 == 1) {
+                x.raise(one, 7 * i - 95);
+            } else {
+                int ribbon = i < 19 ? 0 : 1;
+                x.hand(ribbon, (x.ribbon(ribbon, 0) + 1 + i % 2) % 3);
+            }
+        }
+        return x;
+    }
+
+    /** 25 of all kinds: each undoing leads to what was there, up to the first five. */
+    private void undoingAllKinds() {
+        edge.terms("the latest first (20 at most),");
+        for (int i = 25; i >= 0; i--) {
+            RibbonRun x = done(25);
+            edge.due("20 can be undone", x.count(9), 20);
+            for (int j = 24; j >= i && j >= 5; j--) {
+                edge.due("undo() of " + j, x.undo(), j - 5);
+            }
+            edge.due("nothing is left", i > 5 ? -1 : x.undo(), -1);
+            edge.due("as behind " + Math.max(i, 5), deeds(x).equals(deeds(done(Math.max(i, 5)))), true);
+        }
+    }
+
+    /** What deeds can change, asked by few calls. */
+    private static String deeds(RibbonRun x) {
+        StringBuilder told = new StringBuilder();
+        for (int g = 0; g < 3; g++) {
+            told.append(x.grower(g, 0)).append(' ').append(x.grower(g, 4)).append(' ').append(x.grower(g, 5)).append(' ');
+        }
+        return told.append(x.ribbon(0, 0)).append(x.ribbon(0, 1)).append(x.ribbon(1, 0)).append(x.ribbon(1, 1)).append(x.count(5)).toString();
     }
 
     private void undoingNoYear() {

@@ -274,6 +274,7 @@ final class EdgeState {
         x.go(2);
         edge.due("SINCE 2 isn't yet asked", x.ribbon(0, 0), 0);
         edge.due("of judge 0", x.law(0, 0, 1), 0);
+        edge.due("JUDGED by 0", x.judged(0, 1), 0);
         x.go(1);
         edge.due("SINCE 2 was asked", x.ribbon(0, 0), 1);
         edge.due("of grow 0", x.grower(0, 0), 5);
@@ -412,6 +413,11 @@ final class EdgeState {
         edge.due("c by two", Check.of(THREE + "sees a c;sees b c;sees c a;").popular(), 2);
         edge.due("a and c by two", Check.of(THREE + "sees a c;sees b c;sees c a;sees b a;").popular(), 0);
         edge.due("b by one", Check.of(THREE + "sees a b;").popular(), 1);
+        edge.due("all by five", Check.of(everySees(6)).popular(), 0);
+        RibbonRun six = Check.of(everySees(6));
+        six.show(0, 5, false);
+        six.show(5, 0, false);
+        edge.due("b to e by five", six.popular(), 1);
         edge.due("all by two", Check.of(THREE + "sees c a;sees b a;sees c b;sees a b;sees a c;sees b c;").popular(), 0);
         RibbonRun x = Check.of(THREE + "sees a c;sees b c;sees c a;sees b a;");
         x.show(2, 0, false);

@@ -184,9 +184,38 @@ final class EdgeText {
         edge.due("all are known", x.count(8), 2);
         edge.due("no image", x.back(), -1);
         edge.due("nothing to undo", x.undo(), -1);
+        againAndAgain();
         RibbonRun z = Busy.full();
         edge.due("a text without lines", z.text(0), 0);
         edge.alike("a text without lines and a new object", z, new RibbonRun());
+    }
+
+    /** What one text told, or told up to its fault, is not told to the next one. */
+    private void againAndAgain() {
+        String whole = TWO + "sees a b;ribbon a;ribbon b;blight 60;seed 8;law judge 1;law grow 2;law give (3 or 4);";
+        String plain = TWO + "sees b a;ribbon b;blight 50;";
+        String[] cut = {"blight 1;?", "seed 1;?", "law judge 1;?", "law judge ((not (1 + ?", "law grow not (1", whole + "?", growers(6) + "?",
+            TWO + "sees a b;sees b a;ribbon a;ribbon a;?", "law judge not " + sum(63) + "+"};
+        RibbonRun x = new RibbonRun();
+        for (int i = 0; i < cut.length; i++) {
+            edge.due("text " + cut[i], Check.read(x, cut[i]), -1);
+            for (int j = 0; j < 2; j++) {
+                edge.due("a whole one behind it", Check.read(x, whole), 10);
+                edge.due("its KNOTS", x.count(3), 5);
+                edge.due("its law of judging", x.law(0, 0, 1), 1);
+                edge.due("its law of growing", x.law(1, 0, 0), 2);
+                edge.due("its law of giving", x.law(2, 0, 0), 1);
+            }
+        }
+        RibbonRun y = Check.of(whole);
+        Check.read(y, whole);
+        edge.due("a plain one", Check.read(y, plain), 5);
+        edge.alike("a plain text behind two whole ones", y, Check.of(plain));
+        RibbonRun z = Check.of(whole);
+        Check.read(z, plain);
+        Check.read(z, "law grow ((((((((1");
+        edge.due("a whole one", Check.read(z, whole), 10);
+        edge.alike("a whole text behind a plain one and one with a fault", z, Check.of(whole));
     }
 
     private void refusedTexts() {
@@ -402,11 +431,26 @@ final class EdgeText {
         edge.due("or binds least", value("1 or 1 and 0"), 1);
         edge.due("and binds less than not", value("not 0 and 0"), 0);
         edge.due("not binds less than =", value("not 1 = 0"), 1);
-        edge.due("= binds less than +", value("1 + 1 = 2"), 1);
+        edge.due("not binds less than +", value("not 1 + 1"), 0);
+        edge.due("not binds less than *", value("not 2 * 0"), 1);
+        edge.due("= binds less than +", value("2 + 1 = 3"), 1);
+        edge.due("= binds less than -", value("3 = 4 - 1"), 1);
+        edge.due("> binds less than +", value("2 + 1 > 2"), 1);
+        edge.due("> binds less than -", value("2 > 4 - 3"), 1);
         edge.due("+ binds less than *", value("1 + 2 * 3"), 7);
         edge.due("- from the left", value("9 - 5 - 3"), 1);
         edge.due("/ from the left", value("64 / 8 / 2"), 4);
         edge.due("'(' binds most", value("(1 + 2) * 3"), 9);
+        edge.due("'(' binds most", value("(1 or 0) + 1"), 2);
+        edge.due("'(' binds most", value("not (1 and 0) + 1"), 0);
+        edge.due("'(' binds most", value("(not 1 and 0) + (0 or 7 > 6) * 5"), 5);
+        String[] signs = {"<", "<=", "=", "<>", ">=", ">"};
+        for (String sign : signs) {
+            for (String other : signs) {
+                edge.fault("law grow 1 " + sign + " 2 " + other + " 3;", 1, 14 + sign.length());
+                edge.fault("law grow 1 " + sign + " (2 " + other + " 3);", 0, -1);
+            }
+        }
         edge.terms("N of E 0 .. 9999.");
         edge.due("0", value("0"), 0);
         edge.due("9999", value("9999"), 9999);
@@ -617,6 +661,12 @@ final class EdgeText {
         }
         edge.fault("law judge " + "not ".repeat(63) + "1;", 0, -1);
         edge.fault("law judge " + "not ".repeat(64) + "1;", 2, 10 + 4 * 64);
+        edge.due("63 not", value("not ".repeat(63) + "1"), 0);
+        edge.due("62 not", value("not ".repeat(62) + "1"), 1);
+        // As many that wait for what stands behind them as there can be: 63 not and eight '('.
+        edge.due("63 not and eight '('", value(("not ".repeat(7) + "(").repeat(8) + "not ".repeat(7) + "1" + ")".repeat(8)), 0);
+        edge.due("62 not and eight '('", value(("not ".repeat(7) + "(").repeat(8) + "not ".repeat(6) + "1" + ")".repeat(8)), 1);
+        edge.due("eight '(' in a sum", value("1+(".repeat(8) + sum(47) + ")".repeat(8)), 32);
         edge.fault("law judge " + "not ".repeat(65) + "1;", 2, 10 + 4 * 64);
         edge.fault("law judge " + sum(63) + "+worth;", 2, 10 + 64);
         edge.fault("law judge " + sum(31) + ";law grow " + sum(31) + ";law give not 1;", 0, -1);

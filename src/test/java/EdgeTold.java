@@ -1,5 +1,3 @@
-import java.util.function.Supplier;
-
 /** The edges of what is noted, seen and struck: promises 23 and 34 to 38. */
 final class EdgeTold {
     private static final String FOUR = "grower a 9 0 0 0;grower b 8 0 0 0;grower c 7 0 0 0;grower d 6 0 0 0;"
@@ -28,16 +26,6 @@ final class EdgeTold {
         test.doubtsFromTheText();
     }
 
-    private void refuse(String told, Supplier<RibbonRun> maker, int[] values, EdgeTold.Asked asked) {
-        for (int no : values) {
-            edge.leaves(told + " " + no, maker, asked.with(no), -1);
-        }
-    }
-
-    private interface Asked {
-        java.util.function.ToLongFunction<RibbonRun> with(int no);
-    }
-
     private void handings() {
         edge.at(34, "A HANDING: its number;");
         RibbonRun x = Check.of(FOUR);
@@ -47,9 +35,9 @@ final class EdgeTold {
         edge.due("a refused one takes no number", x.note(0, 0), -1);
         edge.due("the next", x.note(1, 2), 3);
         edge.at(34, "NONE: no such ones, alike, or there are 24 in all.");
-        refuse("note one", Busy::full, Edge.beyond(0, 2), no -> y -> y.note(no, 0));
-        refuse("note other", Busy::full, Edge.beyond(0, 2), no -> y -> y.note(0, no));
-        refuse("note alike", Busy::full, new int[] {0, 1, 2}, no -> y -> y.note(no, no));
+        edge.refused("note one", Busy::full, Edge.beyond(0, 2), no -> y -> y.note(no, 0));
+        edge.refused("note other", Busy::full, Edge.beyond(0, 2), no -> y -> y.note(0, no));
+        edge.refused("note alike", Busy::full, new int[] {0, 1, 2}, no -> y -> y.note(no, no));
         edge.leaves("note(0, 1) with 24", Busy::told, y -> y.note(0, 1), -1);
         edge.due("no growers", new RibbonRun().note(0, 1), -1);
     }
@@ -63,9 +51,9 @@ final class EdgeTold {
         edge.due("the next", x.see(60, 1, 3, false), 2);
         edge.at(35, "NONE: no such ones, or there are 24 in all.");
         for (boolean is : new boolean[] {true, false}) {
-            refuse("see behind", Busy::full, Edge.beyond(1, 60), no -> y -> y.see(no, 0, 0, is));
-            refuse("see of", Busy::full, Edge.beyond(0, 1), no -> y -> y.see(1, no, 0, is));
-            refuse("see with", Busy::full, Edge.beyond(0, 2), no -> y -> y.see(1, 0, no, is));
+            edge.refused("see behind", Busy::full, Edge.beyond(1, 60), no -> y -> y.see(no, 0, 0, is));
+            edge.refused("see of", Busy::full, Edge.beyond(0, 1), no -> y -> y.see(1, no, 0, is));
+            edge.refused("see with", Busy::full, Edge.beyond(0, 2), no -> y -> y.see(1, 0, no, is));
             edge.leaves("see(1, 0, 0, " + is + ") with 24", Busy::told, y -> y.see(1, 0, 0, is), -1);
         }
         edge.due("one RIBBON, the second", Check.of(FOUR).see(1, 1, 0, true), -1);
@@ -85,9 +73,9 @@ final class EdgeTold {
         edge.due("a SIGHT", x.see(1, 0, 0, true), 4);
         edge.due("of a SIGHT", x.strike(4), 5);
         edge.at(36, "NONE: no such one, or there are 24 in all.");
-        refuse("strike of four", Busy::full, Edge.beyond(0, 3), no -> y -> y.strike(no));
+        edge.refused("strike of four", Busy::full, Edge.beyond(0, 3), no -> y -> y.strike(no));
         edge.due("the last of four", Busy.full().strike(3), 4);
-        refuse("strike with 24", Busy::told, new int[] {-1, 0, 1, 22, 23, 24, Edge.LOW, Edge.HIGH}, no -> y -> y.strike(no));
+        edge.refused("strike with 24", Busy::told, new int[] {-1, 0, 1, 22, 23, 24, Edge.LOW, Edge.HIGH}, no -> y -> y.strike(no));
         edge.due("none", new RibbonRun().strike(0), -1);
     }
 
@@ -256,6 +244,21 @@ final class EdgeTold {
             six.note(i, 5);
         }
         order("f ahead of all", six, 5, 0, 1, 2, 3, 4, 0);
+        // f ahead of e, e of d, d of c, c of b, b of a: the last row of all.
+        RibbonRun last = Check.of("grower a 1 0 0 0;grower b 1 0 0 0;grower c 1 0 0 0;grower d 1 0 0 0;grower e 1 0 0 0;grower f 1 0 0 0;"
+            + "sees a e;sees a f;sees b d;sees b e;sees e c;sees e d;sees f b;sees f c;sees d a;sees d b;");
+        last.note(0, 5);
+        last.note(1, 4);
+        last.note(4, 3);
+        last.note(5, 2);
+        last.note(3, 1);
+        order("all turned round", last, 5, 4, 3, 2, 1, 0, 0);
+        RibbonRun sight = Check.of(FOUR);
+        sight.see(1, 0, 3, true);
+        order("a SIGHT is no HANDING", sight, 0, 1, 2, 3, -2, -2, 0);
+        sight.note(0, 2);
+        sight.strike(0);
+        order("a STRIKE is none either", sight, 0, 2, 1, 3, -2, -2, 0);
         RibbonRun most = Check.of(EdgeState.everySees(3));
         for (int i = 0; i < 24; i++) {
             most.note(2, i < 12 ? 0 : 1);
@@ -267,7 +270,7 @@ final class EdgeTold {
         }
         order("11 of 24 CLASH", all, 0, 1, 2, -2, -2, -2, 11);
         edge.at(23, "NONE for another what.");
-        refuse("order", Busy::full, Edge.beyond(0, 6), no -> y -> y.order(no));
+        edge.refused("order", Busy::full, Edge.beyond(0, 6), no -> y -> y.order(no));
         edge.due("of nobody", new RibbonRun().order(7), -1);
     }
 
@@ -278,6 +281,11 @@ final class EdgeTold {
         x.see(3, 0, 2, true);
         edge.due("with c behind 3: 2 .. 9", x.doubts(0), 1020);
         edge.due("b's DOUBT is as it likes", x.doubts(1), 1023);
+        RibbonRun back = Check.of(DOUBT);
+        back.see(3, 0, 2, true);
+        back.see(1, 0, 1, true);
+        back.note(0, 1);
+        edge.due("with b behind 1, told later", back.doubts(0), 1020);
         x.strike(0);
         x.see(3, 0, 1, true);
         edge.due("with b behind 3: 0 and 1", x.doubts(0), 3);
@@ -298,8 +306,12 @@ final class EdgeTold {
         none.see(1, 0, 1, true);
         edge.due("0 alone", none.doubts(0), 1);
         edge.at(38, "DOUBTS (bits);");
-        x.note(0, 1);
-        edge.due("a HANDING is no SIGHT", x.doubts(0), 0);
+        RibbonRun noted = Check.of(DOUBT);
+        noted.see(1, 0, 2, true);
+        edge.due("a SIGHT that isn't so", noted.doubts(0), 0);
+        Check.read(noted, DOUBT);
+        noted.note(0, 2);
+        edge.due("a HANDING is no SIGHT", noted.doubts(0), 1023);
         x.known(3);
         edge.due("KNOWN by three", x.doubts(0), 3);
         x.known(1);
@@ -308,7 +320,7 @@ final class EdgeTold {
         edge.due("KNOWN by none", x.doubts(0), 1023);
         edge.leaves("doubts(0)", Busy::full, y -> y.doubts(0), Busy.full().doubts(0));
         edge.at(38, "NONE: no such GROWER.");
-        refuse("doubts of", Busy::full, Edge.beyond(0, 2), no -> y -> y.doubts(no));
+        edge.refused("doubts of", Busy::full, Edge.beyond(0, 2), no -> y -> y.doubts(no));
         edge.due("no growers", new RibbonRun().doubts(0), -1);
     }
 

@@ -27,7 +27,6 @@ final class StateTest {
         ranks();
         seen();
         undoing();
-        undoingMany();
         undoingTheLast();
         images();
         counts();
@@ -499,27 +498,6 @@ final class StateTest {
         CHECK.due("P41 the raise", x.undo(), 19);
         CHECK.due("P41 the handing", x.undo(), 18);
         same("P41 the last", all(x), was);
-    }
-
-    /** More than twenty of all kinds: each undoing leads to what was there. */
-    private static void undoingMany() {
-        RibbonRun x = Check.of(THREE + "law give 0;");
-        x.go(3);
-        int[][] was = new int[30][];
-        for (int i = 0; i < 29; i++) {
-            was[i] = all(x);
-            boolean isDone = i % 3 == 0 ? x.show(i % 2, 2 - i % 2, !(x.grower(i % 2, 5) >> 2 - i % 2 > 0 && i % 2 == 0))
-                : i % 3 == 1 ? x.raise(i / 3 % 3, 7 * i - 95) >= 0 : x.hand(i % 2, (x.ribbon(i % 2, 0) + 1 + i % 2) % 3);
-            if (!isDone) {
-                x.raise(i % 3, i + 1);
-            }
-            CHECK.due("P44 " + i + " to undo", x.count(9), Math.min(20, i + 1));
-        }
-        for (int i = 28; i >= 9; i--) {
-            CHECK.due("P41 undone " + i, x.undo(), i - 9);
-            same("P41 undone " + i, all(x), was[i]);
-        }
-        CHECK.due("P41 none", x.undo(), -1);
     }
 
     private static void images() {
