@@ -1488,7 +1488,7 @@ public final class RibbonRun {
             return ownLaw(GIVE, grower, since) != 0;
         }
 
-        /** JUDGED of the other one by the one. */
+        /** JUDGED of the other one by the one; not by judgeLaw, since lead would go nine calls deep. */
         int esteem(int one, int other) {
             tell(one, other, garden.far(one, other), 0);
             long value = garden.laws[JUDGE].worked(names, values);
